@@ -542,20 +542,17 @@ public final class MergeWorkbench {
         }
 
         int at(int row, int column) {
-            int index = indexOf(row, column);
-            return index >= 0 && index < cells.length ? cells[index] : NONE;
+            int index = row * columns + column;
+            boolean exists = row >= 0 && row < rowCount && column >= 0 && column < columns;
+            return exists && index >= 0 && index < cells.length ? cells[index] : NONE;
         }
 
         void put(int row, int column, int value) {
-            int index = indexOf(row, column);
-            if (index >= 0 && index < cells.length) {
+            int index = row * columns + column;
+            boolean exists = row >= 0 && row < rowCount && column >= 0 && column < columns;
+            if (exists && index >= 0 && index < cells.length) {
                 cells[index] = value;
             }
-        }
-
-        private int indexOf(int row, int column) {
-            boolean exists = row >= 0 && row < rowCount && column >= 0 && column < columns;
-            return exists ? row * columns + column : NONE;
         }
 
         void clear() {
