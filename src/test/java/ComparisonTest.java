@@ -58,6 +58,11 @@ public final class ComparisonTest {
         dueAlignment(0, "xay", "byaxb", "3 -1 -1");
         dueAlignment(0, "abcabba", "cbabac", "-1 1 -1 2 3 -1 4");
         dueAlignment(0, "ab", "xbxab", "3 4");
+        dueAlignment(0, "(abcdefgh)3", "z9z9z5a", "23" + " -1".repeat(23));
+        dueAlignment(0, "z9z9z5a", "(abcdefgh)3", "-1 ".repeat(23) + "0");
+        // 24 lines each: b follows at once, though h would leave as many pairs.
+        dueAlignment(0, "(abcdefgh)3", "(hgfedcba)2(abcdefgh)",
+                "7 14" + " -1".repeat(6) + " 15" + " -1".repeat(7) + " 16 17 18 19 20 21 22 23");
         MergeWorkbench x = Check.with("abcd", "bxd", "", "z");
         Check.dueThrows("partner without comparison", STATE, () -> x.partner(9));
         Check.dueThrows("compare with 4", ARGUMENT, () -> x.compare(0, 4));
@@ -86,6 +91,9 @@ public final class ComparisonTest {
         dueAlignment(1, "cab", "abc", "-1 0 1");
         // Between the anchors x and y, the plain alignment of aabb and abab.
         dueAlignment(1, "xaabby", "xababy", "0 1 3 4 -1 5");
+        // The same behind the last anchor, and before the first one.
+        dueAlignment(1, "xaabb", "xabab", "0 1 3 4 -1");
+        dueAlignment(1, "aabbx", "ababx", "0 2 3 -1 4");
         // a occurs twice in b, so it is no candidate; b is, and bounds the parts.
         dueAlignment(1, "ab", "aba", "0 1");
         MergeWorkbench x = compared(1, "ab", "aba");
@@ -107,6 +115,7 @@ public final class ComparisonTest {
         Check.read(x, 1, "zzzz");
         Check.due("partners afterwards", partners(x, 3), "0 -1 1");
         Check.due("a step afterwards", x.step(3), 203);
+        Check.dueThrows("the step behind the last one", ELEMENT, () -> x.step(4));
         Check.dueThrows("compare with -1", ARGUMENT, () -> x.compare(0, -1));
         Check.due("partners after an exception", partners(x, 3), "0 -1 1");
     }
@@ -149,6 +158,9 @@ public final class ComparisonTest {
         Check.dueThrows("step(-1)", ELEMENT, () -> x.step(-1));
         Check.dueThrows("step of nothing", ELEMENT, () -> compared(0, "", "").step(0));
         Check.dueThrows("step without comparison", STATE, () -> new MergeWorkbench().step(-1));
+        x.compare(1, 1);
+        Check.due("a step of the new comparison", x.step(1), 23);
+        Check.dueThrows("step(5) of the new comparison", ELEMENT, () -> x.step(5));
         MergeWorkbench all = compared(0, "(abcdefgh)3", "(ijklmnop)3");
         Check.due("the last of 48 steps", all.step(47), 215);
         Check.dueThrows("step(48)", ELEMENT, () -> all.step(48));
@@ -216,8 +228,11 @@ public final class ComparisonTest {
         // What one move has taken, in a or in b, is no part of the next.
         dueMoves("mnopqrabcbc", "abcmnopqr", 1, "6,0,3");
         dueMoves("mnopqrabcd", "bcdabcmnopqr", 1, "6,3,3 9,2,1");
-        // A kept line is no part of a move: the second a of b stays where it is.
+        dueMoves("abmnop", "mnopab", 1, "0,4,2");
+        // A kept line, of a or of b, is no part of a move.
         dueMoves("ab", "bab", 1, "");
+        dueMoves("aab", "ab", 1, "");
+        dueMoves("ab", "aab", 1, "");
         dueMoves("mnopabcd", "abxcdmnop", 1, "4,0,2 6,3,2");
     }
 }

@@ -103,6 +103,10 @@ public final class MergeTest {
         dueMerge("c", "xx", "xxx", "xx<=x>", "3:0-0:0-2:0-2 4:0-1:2-2:2-3");
         dueMerge("c", "xyx", "xyxyx", "xyx<=yx>", "3:0-0:0-3:0-3 4:0-1:3-3:3-5");
         dueMerge("c", "xy", "xzy", "x<=z>y", "3:0-0:0-1:0-1 4:0-1:1-1:1-2 3:1-1:1-2:2-3");
+        dueMerge("c", "xxx", "xx", "xx<x=>", "3:0-0:0-2:0-2 4:0-1:2-3:2-2");
+        dueMerge("ac", "axxx", "axx", "axx<x=>", "0:0-1:0-1:0-1 3:1-1:1-3:1-3 4:1-2:3-4:3-3");
+        dueMerge("ac", "axyzy", "axy", "axy<zy=>", "0:0-1:0-1:0-1 3:1-1:1-3:1-3 4:1-2:3-5:3-3");
+        dueMerge("cb", "yxb", "xb", "<y=>xb", "4:0-1:0-1:0-0 3:1-1:1-2:0-1 0:1-2:2-3:1-2");
         // As the base part once the ends are taken away: it stays a conflict.
         dueMerge("", "xy", "xzy", "x<=z>y", "3:0-0:0-1:0-1 4:0-0:1-1:1-2 3:0-0:1-2:2-3");
         MergeWorkbench x = Check.with("acb", "aypxb", "ayqxb");
