@@ -20,21 +20,6 @@ public final class ComparisonTest {
         Check.end();
     }
 
-    private static MergeWorkbench compared(int mode, String a, String b) {
-        MergeWorkbench x = Check.with(a, b);
-        x.setMode(mode);
-        x.compare(0, 1);
-        return x;
-    }
-
-    private static String partners(MergeWorkbench x, int lines) {
-        StringBuilder all = new StringBuilder();
-        for (int position = 0; position < lines; position++) {
-            all.append(x.partner(position)).append(' ');
-        }
-        return all.toString().trim();
-    }
-
     private static void setMode() {
         MergeWorkbench x = new MergeWorkbench();
         Check.due("setMode(1)", x.setMode(1), 0);
@@ -45,8 +30,8 @@ public final class ComparisonTest {
     }
 
     private static void dueAlignment(int mode, String a, String b, String partners) {
-        MergeWorkbench x = compared(mode, a, b);
-        Check.due("partners of " + a + " in " + b + " by mode " + mode, partners(x, x.length(0)), partners);
+        MergeWorkbench x = Told.compared(mode, a, b);
+        Check.due("partners of " + a + " in " + b + " by mode " + mode, Told.partners(x, x.length(0)), partners);
     }
 
     private static void compareAndPartner() {
@@ -96,12 +81,12 @@ public final class ComparisonTest {
         dueAlignment(1, "aabbx", "ababx", "0 2 3 -1 4");
         // a occurs twice in b, so it is no candidate; b is, and bounds the parts.
         dueAlignment(1, "ab", "aba", "0 1");
-        MergeWorkbench x = compared(1, "ab", "aba");
+        MergeWorkbench x = Told.compared(1, "ab", "aba");
         Check.due("anchors of ab and aba", x.anchors(), 1);
-        Check.due("anchors of xaabb and aabbx", compared(1, "xaabb", "aabbx").anchors(), 1);
-        Check.due("anchors without candidates", compared(1, "aabb", "abab").anchors(), 0);
-        Check.due("anchors by mode 0", compared(0, "abc", "abc").anchors(), 0);
-        Check.due("anchors of the same", compared(1, "abc", "abc").anchors(), 3);
+        Check.due("anchors of xaabb and aabbx", Told.compared(1, "xaabb", "aabbx").anchors(), 1);
+        Check.due("anchors without candidates", Told.compared(1, "aabb", "abab").anchors(), 0);
+        Check.due("anchors by mode 0", Told.compared(0, "abc", "abc").anchors(), 0);
+        Check.due("anchors of the same", Told.compared(1, "abc", "abc").anchors(), 3);
         x.setMode(0);
         Check.due("anchors are kept", x.anchors(), 1);
         x.compare(0, 1);
@@ -110,35 +95,25 @@ public final class ComparisonTest {
     }
 
     private static void comparisonIsKept() {
-        MergeWorkbench x = compared(0, "abc", "acd");
+        MergeWorkbench x = Told.compared(0, "abc", "acd");
         x.delete(0, 0);
         Check.read(x, 1, "zzzz");
-        Check.due("partners afterwards", partners(x, 3), "0 -1 1");
+        Check.due("partners afterwards", Told.partners(x, 3), "0 -1 1");
         Check.due("a step afterwards", x.step(3), 203);
         Check.dueThrows("the step behind the last one", ELEMENT, () -> x.step(4));
         Check.dueThrows("compare with -1", ARGUMENT, () -> x.compare(0, -1));
-        Check.due("partners after an exception", partners(x, 3), "0 -1 1");
-    }
-
-    private static String bounds(MergeWorkbench x) {
-        StringBuilder all = new StringBuilder();
-        for (int index = 0; index < x.differences(); index++) {
-            for (int what = 0; what < 4; what++) {
-                all.append(x.difference(index, what)).append(what < 3 ? "," : " ");
-            }
-        }
-        return all.toString().trim();
+        Check.due("partners after an exception", Told.partners(x, 3), "0 -1 1");
     }
 
     private static void differences() {
-        Check.due("differences", bounds(compared(0, "abcdef", "abxdeyf")), "2,3,2,3 5,5,5,6");
-        Check.due("differences at the ends", bounds(compared(0, "xabc", "abcyz")), "0,1,0,0 4,4,3,5");
-        Check.due("no differences", bounds(compared(0, "abc", "abc")), "");
-        Check.due("no differences of nothing", bounds(compared(0, "", "")), "");
-        Check.due("all different", bounds(compared(0, "ab", "xyz")), "0,2,0,3");
-        Check.due("all inserted", bounds(compared(0, "", "xyz")), "0,0,0,3");
-        Check.due("every other line", bounds(compared(0, "a", "xay")), "0,0,0,1 1,1,2,3");
-        MergeWorkbench x = compared(0, "ab", "b");
+        Check.due("differences", Told.differences(Told.compared(0, "abcdef", "abxdeyf")), "2,3,2,3 5,5,5,6");
+        Check.due("differences at the ends", Told.differences(Told.compared(0, "xabc", "abcyz")), "0,1,0,0 4,4,3,5");
+        Check.due("no differences", Told.differences(Told.compared(0, "abc", "abc")), "");
+        Check.due("no differences of nothing", Told.differences(Told.compared(0, "", "")), "");
+        Check.due("all different", Told.differences(Told.compared(0, "ab", "xyz")), "0,2,0,3");
+        Check.due("all inserted", Told.differences(Told.compared(0, "", "xyz")), "0,0,0,3");
+        Check.due("every other line", Told.differences(Told.compared(0, "a", "xay")), "0,0,0,1 1,1,2,3");
+        MergeWorkbench x = Told.compared(0, "ab", "b");
         Check.dueThrows("difference(1, 0)", INDEX, () -> x.difference(1, 0));
         Check.dueThrows("difference(-1, 9)", INDEX, () -> x.difference(-1, 9));
         Check.dueThrows("difference(0, 4)", ARGUMENT, () -> x.difference(0, 4));
@@ -149,60 +124,52 @@ public final class ComparisonTest {
     }
 
     private static void steps() {
-        MergeWorkbench x = compared(0, "abcd", "axydz");
+        MergeWorkbench x = Told.compared(0, "abcd", "axydz");
         int[] script = {0, 101, 102, 223, 224, 3, 225};
         for (int index = 0; index < script.length; index++) {
             Check.due("step " + index, x.step(index), script[index]);
         }
         Check.dueThrows("step(7)", ELEMENT, () -> x.step(7));
         Check.dueThrows("step(-1)", ELEMENT, () -> x.step(-1));
-        Check.dueThrows("step of nothing", ELEMENT, () -> compared(0, "", "").step(0));
+        Check.dueThrows("step of nothing", ELEMENT, () -> Told.compared(0, "", "").step(0));
         Check.dueThrows("step without comparison", STATE, () -> new MergeWorkbench().step(-1));
         x.compare(1, 1);
         Check.due("a step of the new comparison", x.step(1), 23);
         Check.dueThrows("step(5) of the new comparison", ELEMENT, () -> x.step(5));
-        MergeWorkbench all = compared(0, "(abcdefgh)3", "(ijklmnop)3");
+        MergeWorkbench all = Told.compared(0, "(abcdefgh)3", "(ijklmnop)3");
         Check.due("the last of 48 steps", all.step(47), 215);
         Check.dueThrows("step(48)", ELEMENT, () -> all.step(48));
     }
 
     private static void similarity() {
-        Check.due("similarity", compared(0, "abcdef", "abxdeyf").similarity(), 10.0 / 13.0);
-        Check.due("similarity of the same", compared(0, "abc", "abc").similarity(), 1.0);
-        Check.due("similarity of nothing common", compared(0, "abc", "").similarity(), 0.0);
-        Check.dueThrows("similarity of nothing", ArithmeticException.class, () -> compared(0, "", "").similarity());
+        Check.due("similarity", Told.compared(0, "abcdef", "abxdeyf").similarity(), 10.0 / 13.0);
+        Check.due("similarity of the same", Told.compared(0, "abc", "abc").similarity(), 1.0);
+        Check.due("similarity of nothing common", Told.compared(0, "abc", "").similarity(), 0.0);
+        MergeWorkbench nothing = Told.compared(0, "", "");
+        Check.dueThrows("similarity of nothing", ArithmeticException.class, nothing::similarity);
         Check.dueThrows("similarity without comparison", STATE, () -> new MergeWorkbench().similarity());
     }
 
-    private static String moves(MergeWorkbench x, int count) {
-        StringBuilder all = new StringBuilder();
-        for (int index = 0; index < count; index++) {
-            all.append(x.move(index, 0)).append(',').append(x.move(index, 1)).append(',')
-                    .append(x.move(index, 2)).append(' ');
-        }
-        return all.toString().trim();
-    }
-
     private static void findMoves() {
-        MergeWorkbench x = compared(0, "abcdefgh", "defabcgh");
+        MergeWorkbench x = Told.compared(0, "abcdefgh", "defabcgh");
         Check.dueThrows("move before findMoves", INDEX, () -> x.move(0, 9));
         Check.due("findMoves(3)", x.findMoves(3), 1);
-        Check.due("the move", moves(x, 1), "3,0,3");
+        Check.due("the move", Told.moves(x, 1), "3,0,3");
         Check.dueThrows("move(1, 0)", INDEX, () -> x.move(1, 0));
         Check.dueThrows("move(-1, 0)", INDEX, () -> x.move(-1, 0));
         Check.dueThrows("move(0, 3)", ARGUMENT, () -> x.move(0, 3));
         Check.dueThrows("move(0, -1)", ARGUMENT, () -> x.move(0, -1));
         Check.dueThrows("findMoves(0)", ARGUMENT, () -> x.findMoves(0));
         Check.dueThrows("findMoves(10)", ARGUMENT, () -> x.findMoves(10));
-        Check.due("moves stay after an exception", moves(x, 1), "3,0,3");
+        Check.due("moves stay after an exception", Told.moves(x, 1), "3,0,3");
         Check.due("findMoves(4)", x.findMoves(4), 0);
         Check.dueThrows("moves found before are gone", INDEX, () -> x.move(0, 0));
         Check.due("findMoves(9)", x.findMoves(9), 0);
         Check.due("findMoves(1)", x.findMoves(1), 1);
         x.append(0, 1);
-        Check.due("the move stays", moves(x, 1), "3,0,3");
+        Check.due("the move stays", Told.moves(x, 1), "3,0,3");
         Check.dueThrows("compare wrongly", ARGUMENT, () -> x.compare(4, 0));
-        Check.due("the move stays after an exception", moves(x, 1), "3,0,3");
+        Check.due("the move stays after an exception", Told.moves(x, 1), "3,0,3");
         x.compare(0, 1);
         Check.dueThrows("no moves after compare", INDEX, () -> x.move(0, 0));
         MergeWorkbench none = new MergeWorkbench();
@@ -212,9 +179,9 @@ public final class ComparisonTest {
     }
 
     private static void dueMoves(String a, String b, int minimum, String due) {
-        MergeWorkbench x = compared(0, a, b);
+        MergeWorkbench x = Told.compared(0, a, b);
         int count = x.findMoves(minimum);
-        Check.due("moves from " + a + " to " + b, moves(x, count), due);
+        Check.due("moves from " + a + " to " + b, Told.moves(x, count), due);
     }
 
     private static void moveOrder() {

@@ -157,61 +157,47 @@ public final class DocumentTest {
         Check.due("feed after reading", x.feed('a'), 1);
     }
 
-    private static void dueRead(String text, String document) {
-        MergeWorkbench x = Check.with("q");
-        Check.due("length of " + text, Check.read(x, 0, text), document.length());
-        Check.due(text, Check.text(x, 0), document);
-        Check.due("input after " + text, x.feed('a'), 1);
-    }
-
     private static void readDocument() {
-        dueRead("", "");
-        dueRead("az", "az");
-        dueRead("a2b9", "aabbbbbbbbb");
-        dueRead("(a)", "a");
-        dueRead("(ab)3c", "abababc");
-        dueRead("((a2b)2c)2", "aabaabcaabaabc");
-        dueRead("a(b(c)2)2d2", "abccbccdd");
-        dueRead("((((a))))", "a");
-        dueRead("((((a)2)2)2)2(b)(((c)))", "aaaaaaaaaaaaaaaabc");
-        dueRead("(a)(b)", "ab");
-        dueRead("a2a2", "aaaa");
-        dueRead("a9b9c6", "aaaaaaaaabbbbbbbbbcccccc");
-        dueRead("((((a))))((((b))))", "ab");
-    }
-
-    private static void dueError(String text, int position) {
-        MergeWorkbench x = Check.with("pq");
-        Check.due("error of " + text, Check.read(x, 0, text), -100 - position);
-        Check.due("document after " + text, Check.text(x, 0), "pq");
-        Check.due("input after " + text, x.feed('a'), 1);
+        Told.dueRead("", "");
+        Told.dueRead("az", "az");
+        Told.dueRead("a2b9", "aabbbbbbbbb");
+        Told.dueRead("(a)", "a");
+        Told.dueRead("(ab)3c", "abababc");
+        Told.dueRead("((a2b)2c)2", "aabaabcaabaabc");
+        Told.dueRead("a(b(c)2)2d2", "abccbccdd");
+        Told.dueRead("((((a))))", "a");
+        Told.dueRead("((((a)2)2)2)2(b)(((c)))", "aaaaaaaaaaaaaaaabc");
+        Told.dueRead("(a)(b)", "ab");
+        Told.dueRead("a2a2", "aaaa");
+        Told.dueRead("a9b9c6", "aaaaaaaaabbbbbbbbbcccccc");
+        Told.dueRead("((((a))))((((b))))", "ab");
     }
 
     private static void readErrors() {
-        dueError("2", 0);
-        dueError(")", 0);
-        dueError("A", 0);
-        dueError("`", 0);
-        dueError("{", 0);
-        dueError("()", 1);
-        dueError("(2", 1);
-        dueError("a0", 1);
-        dueError("a1", 1);
-        dueError("a22", 2);
-        dueError("(a)22", 4);
-        dueError("a b", 1);
-        dueError("(", 1);
-        dueError("(a", 2);
-        dueError("((a)2b", 6);
-        dueError("(a))", 3);
-        dueError("(((((a", 4);
-        dueError("(((((", 4);
-        dueError("((((", 4);
-        dueError("((((a)(b", 8);
-        dueError("((((a)((b", 7);
-        dueError("a" + (char) 353, 1);
-        dueError("a9a9a9?", 6);
-        dueError("a9a9a9(", 7);
+        Told.dueReadError("2", 0);
+        Told.dueReadError(")", 0);
+        Told.dueReadError("A", 0);
+        Told.dueReadError("`", 0);
+        Told.dueReadError("{", 0);
+        Told.dueReadError("()", 1);
+        Told.dueReadError("(2", 1);
+        Told.dueReadError("a0", 1);
+        Told.dueReadError("a1", 1);
+        Told.dueReadError("a22", 2);
+        Told.dueReadError("(a)22", 4);
+        Told.dueReadError("a b", 1);
+        Told.dueReadError("(", 1);
+        Told.dueReadError("(a", 2);
+        Told.dueReadError("((a)2b", 6);
+        Told.dueReadError("(a))", 3);
+        Told.dueReadError("(((((a", 4);
+        Told.dueReadError("(((((", 4);
+        Told.dueReadError("((((", 4);
+        Told.dueReadError("((((a)(b", 8);
+        Told.dueReadError("((((a)((b", 7);
+        Told.dueReadError("a" + (char) 353, 1);
+        Told.dueReadError("a9a9a9?", 6);
+        Told.dueReadError("a9a9a9(", 7);
     }
 
     private static void readExceptions() {

@@ -15,11 +15,6 @@ public final class UndoTest {
         Check.end();
     }
 
-    private static void dueUndo(MergeWorkbench x, int register, String document) {
-        Check.due("undo", x.undo(), register);
-        Check.due("document " + register + " after undo", Check.text(x, register), document);
-    }
-
     private static void undoEachChange() {
         MergeWorkbench x = new MergeWorkbench();
         x.append(0, 1);
@@ -33,14 +28,14 @@ public final class UndoTest {
         x.makePatch(0);
         x.apply(1, 0, false);
         Check.due("applied", Check.text(x, 1), "xyz");
-        dueUndo(x, 1, "a");
+        Told.dueUndo(x, 1, "a");
         Check.due("accepted", Check.text(x, 3), "xyz");
-        dueUndo(x, 3, "");
-        dueUndo(x, 2, "");
-        dueUndo(x, 1, "");
-        dueUndo(x, 0, "ab");
-        dueUndo(x, 0, "b");
-        dueUndo(x, 0, "");
+        Told.dueUndo(x, 3, "");
+        Told.dueUndo(x, 2, "");
+        Told.dueUndo(x, 1, "");
+        Told.dueUndo(x, 0, "ab");
+        Told.dueUndo(x, 0, "b");
+        Told.dueUndo(x, 0, "");
         Check.dueThrows("undo too much", STATE, x::undo);
     }
 
@@ -75,7 +70,7 @@ public final class UndoTest {
         Check.dueThrows("read too much", STATE, () -> x.readDocument(1));
         x.setMode(1);
         x.save();
-        dueUndo(x, 0, "");
+        Told.dueUndo(x, 0, "");
         Check.dueThrows("undo too much", STATE, x::undo);
         Check.due("undo keeps the mode", x.setMode(0), 1);
     }

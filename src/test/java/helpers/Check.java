@@ -6,6 +6,7 @@ final class Check {
 
     private static int wrong = 0;
     private static int made = 0;
+    private static String subject = "";
 
     private Check() {
     }
@@ -14,7 +15,7 @@ final class Check {
         made++;
         if (!want.equals(got)) {
             wrong++;
-            System.out.println(call + " answered " + got + ", due is " + want);
+            System.out.println(subject + call + " answered " + got + ", due is " + want);
         }
     }
 
@@ -27,6 +28,37 @@ final class Check {
             got = e.getClass();
         }
         due(call, got, want);
+    }
+
+    /** What is printed before each answer that is not due. */
+    static void about(String text) {
+        subject = text;
+    }
+
+    static int looked() {
+        return made;
+    }
+
+    /** The call throws the exception, and the workbench is as it was before. */
+    static void dueRefused(String call, Class<? extends RuntimeException> want, State.Maker before, State.Use use) {
+        dueChanged(call, want, before, use, before);
+    }
+
+    /** The call throws the exception, and what it leaves is like the other workbench. */
+    static void dueChanged(String call, Class<? extends RuntimeException> want, State.Maker before, State.Use use,
+            State.Maker after) {
+        MergeWorkbench x = before.make();
+        dueThrows(call, want, () -> use.on(x));
+        due("the state after " + call, State.of(() -> refused(before.make(), use)), State.of(after));
+    }
+
+    private static MergeWorkbench refused(MergeWorkbench x, State.Use use) {
+        try {
+            use.on(x);
+        } catch (RuntimeException e) {
+            return x;
+        }
+        return x;
     }
 
     static void end() {
