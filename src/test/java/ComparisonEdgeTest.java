@@ -48,18 +48,26 @@ public final class ComparisonEdgeTest {
 
     /** Nothing is left of a full comparison in a short one, or in one of nothing. */
     private static void fullThenShort(int mode) {
-        MergeWorkbench x = Check.with("a9a9a6", "ab", "ba", "");
+        MergeWorkbench x = Check.with("a9a9a6", "aba", "ba", "");
         x.setMode(mode);
         Check.due("pairs of full documents", x.compare(0, 0), 24);
-        Check.due("pairs of short ones", x.compare(1, 2), 1);
-        Check.due("differences of short ones", Told.differences(x), "0,0,0,1 1,2,2,2");
-        Check.due("steps of short ones", x.step(0) + "," + x.step(1) + "," + x.step(2), "201,0,101");
+        Check.due("pairs of short ones", x.compare(1, 2), 2);
+        Check.due("differences of short ones", Told.differences(x), "0,1,0,0");
+        Check.due("steps of short ones", x.step(0) + "," + x.step(1) + "," + x.step(2), "100,1,0");
         Check.dueThrows("no more steps", ELEMENT, () -> x.step(3));
+        Check.due("pairs of full documents", x.compare(0, 0), 24);
+        Check.due("pairs the other way", x.compare(2, 1), 2);
+        Check.due("differences the other way", Told.differences(x), "0,0,0,1");
         Check.due("pairs of a short one and nothing", x.compare(1, 3), 0);
-        Check.due("differences of a short one and nothing", Told.differences(x), "0,2,0,0");
+        Check.due("differences of a short one and nothing", Told.differences(x), "0,3,0,0");
         Check.due("pairs of nothing", x.compare(3, 3), 0);
         Check.due("no differences", x.differences(), 0);
         Check.dueThrows("no steps", ELEMENT, () -> x.step(0));
+        MergeWorkbench y = Check.with("za3z5", "b3a3b3", "aba", "ba");
+        y.setMode(mode);
+        Check.due("pairs of longer documents", y.compare(0, 1), 3);
+        Check.due("pairs of short ones", y.compare(2, 3), 2);
+        Check.due("differences of short ones", Told.differences(y), "0,1,0,0");
     }
 
     /** Fifteen pairs, and something before, between and behind them: 16 differences, as many as there can be. */

@@ -280,10 +280,12 @@ public final class DocumentEdgeTest {
         Check.due("without the last line", x.distance(0, 2), 1);
         x.insert(2, 0, 23);
         Check.due("the last line moved to the front", x.distance(0, 2), 2);
-        MergeWorkbench shorter = Check.with("a9a9a6", "ab", "ba");
+        MergeWorkbench shorter = Check.with("a9a9a6", "aba", "ba");
         Check.due("24 equal lines", shorter.distance(0, 0), 0);
-        Check.due("two lines afterwards", shorter.distance(1, 2), 2);
-        Check.due("two lines and none afterwards", shorter.distance(1, 3), 2);
+        Check.due("three lines and two afterwards", shorter.distance(1, 2), 1);
+        Check.due("24 equal lines", shorter.distance(0, 0), 0);
+        Check.due("two lines and three afterwards", shorter.distance(2, 1), 1);
+        Check.due("three lines and none afterwards", shorter.distance(1, 3), 3);
         Doc.says(9, "Throws IllegalArgumentException if one of the registers does not exist");
         for (int register : NO_REGISTERS) {
             Check.dueRefused("distance of " + register, ARGUMENT, State::feeding, y -> y.distance(register, 3));

@@ -258,10 +258,13 @@ public final class MergeEdgeTest {
         Check.due("the next one", x.merge(0, 1, 2), 1);
         Check.due("its merged document", Told.merged(x), "<=" + FULL + ">");
         Check.due("it is unresolved", x.unresolved(), 1);
-        MergeWorkbench shorter = Check.with("a9a9a6", "ab", "ba", "");
+        MergeWorkbench shorter = Check.with("a9a9a6", "aba", "ba", "");
         Check.due("a full one", shorter.merge(0, 0, 0), 0);
-        Check.due("a short one", shorter.merge(1, 2, 1), 0);
-        Check.due("its chunks", Told.chunks(shorter), "1:0-0:0-1:0-0 0:0-1:1-2:0-1 1:1-2:2-2:1-2");
+        Check.due("a short one", shorter.merge(1, 2, 2), 0);
+        Check.due("its chunks", Told.chunks(shorter), "3:0-1:0-0:0-0 0:1-3:0-2:0-2");
+        Check.due("a full one", shorter.merge(0, 0, 0), 0);
+        Check.due("a short base", shorter.merge(2, 1, 1), 0);
+        Check.due("its chunks", Told.chunks(shorter), "3:0-0:0-1:0-1 0:0-2:1-3:1-3");
         Check.due("one of nothing", shorter.merge(3, 3, 3), 0);
         Check.due("its length", shorter.mergedLength(), 0);
         Check.due("one without conflict", x.merge(1, 1, 1), 0);
