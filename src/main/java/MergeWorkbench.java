@@ -504,8 +504,13 @@ public final class MergeWorkbench {
         }
 
         boolean isOnce(int value) {
-            int found = find(value, 0, count);
-            return found != NONE && find(value, found + 1, count) == NONE;
+            int times = 0;
+            for (int i = 0; i < count; i++) {
+                if (at(i) == value) {
+                    times++;
+                }
+            }
+            return times == 1;
         }
 
         boolean samePart(int begin, int end, Lines other, int otherBegin, int otherEnd) {

@@ -1,3 +1,6 @@
+import java.util.ArrayList;
+import java.util.List;
+
 /** Workbenches with a comparison, a merge or a patch, and what they answer, told as texts. */
 final class Told {
     private Told() {
@@ -26,6 +29,22 @@ final class Told {
         x.compare(0, 1);
         x.makePatch(context);
         return x;
+    }
+
+    /** All documents with at most so many of these lines. */
+    static List<String> documents(String letters, int most) {
+        List<String> all = new ArrayList<>(List.of(""));
+        int begin = 0;
+        for (int size = 1; size <= most; size++) {
+            int end = all.size();
+            for (int k = begin; k < end; k++) {
+                for (char letter : letters.toCharArray()) {
+                    all.add(all.get(k) + letter);
+                }
+            }
+            begin = end;
+        }
+        return all;
     }
 
     // ---- what they answer
